@@ -24,6 +24,7 @@ public final class HoursTest {
         promise17Gate();
         promise17Refused();
         promise18Advise();
+        promise18OfFive();
         promise18ShortOfWater();
         promise18NoMore();
         promise18Refused();
@@ -383,6 +384,20 @@ public final class HoursTest {
         advise(full, 1, 0);
         advise(full, 18, 0);
         advise(full, 20, 1);
+    }
+
+    private static void promise18OfFive() {
+        SnowPumps x = new SnowPumps();
+        int[] parts = {2, 6, 10, 14, 18};
+        for (int pump = 0; pump < 5; pump++) {
+            x.pump(parts[pump], 1 + pump);
+        }
+        x.fill(9999);
+        for (int pump = 4; pump >= 0; pump--) {
+            advise(x, 3, pump);
+            x.run(pump);
+        }
+        advise(x, 3, -1);
     }
 
     private static void promise18ShortOfWater() {

@@ -194,8 +194,9 @@ public final class WeatherAndPumpsTest {
         check.due("groom(6, 7)", x.groom(6, 7), 8);
         check.due("ice at 6 is gone", x.part(6, 1), 0);
         check.due("ice at 5 is not", x.part(5, 1), 1);
-        check.due("groom(0, 5)", x.groom(0, 5), 24);
+        check.due("groom(5, 5)", x.groom(5, 5), 4);
         check.due("ice at 5 is gone", x.part(5, 1), 0);
+        check.due("its snow is not", x.part(5, 0), 4);
         check.due("no time goes by", x.count(0), 2);
         for (int k = 0; k < 3; k++) {
             x.pass(96);
