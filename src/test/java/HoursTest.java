@@ -32,20 +32,6 @@ public final class HoursTest {
         check.finish();
     }
 
-    private static SnowPumps withPump(int part, int flow, int water) {
-        SnowPumps x = new SnowPumps();
-        x.pump(part, flow);
-        x.run(0);
-        x.fill(water);
-        return x;
-    }
-
-    private static void setAllHours(SnowPumps x, int warmth, int damp) {
-        for (int hour = 0; hour < 24; hour++) {
-            x.setWeather(hour, warmth, damp, 0);
-        }
-    }
-
     private static void snow(String what, SnowPumps x, int from, int... want) {
         for (int k = 0; k < want.length; k++) {
             check.due(what + ": snow of " + (from + k), x.part(from + k, 0), want[k]);
@@ -53,25 +39,25 @@ public final class HoursTest {
     }
 
     private static void promise14Snow() {
-        SnowPumps x = withPump(7, 9, 9999);
+        SnowPumps x = Hills.withPump(7, 9, 9999);
         check.due("pass(1)", x.pass(1), 72);
         snow("one hour", x, 5, 0, 18, 36, 18, 0);
         check.due("pass(2)", x.pass(2), 144);
         snow("three hours", x, 5, 0, 54, 108, 54, 0);
         check.due("hour", x.count(0), 3);
         check.due("water", x.count(4), 9999 - 27);
-        SnowPumps y = withPump(7, 1, 9999);
+        SnowPumps y = Hills.withPump(7, 1, 9999);
         y.setWeather(0, -7, 100, 0);
         check.due("pass(1) of 7, cut", y.pass(1), 3 + 1 + 1);
         snow("7, cut", y, 5, 0, 1, 3, 1, 0);
     }
 
     private static void promise14AtTheEdges() {
-        SnowPumps x = withPump(0, 2, 9999);
+        SnowPumps x = Hills.withPump(0, 2, 9999);
         check.due("at the first part", x.pass(1), 12);
         snow("at the first part", x, 0, 8, 4, 0);
         check.due("the last part gets none of it", x.part(19, 0), 0);
-        SnowPumps y = withPump(19, 2, 9999);
+        SnowPumps y = Hills.withPump(19, 2, 9999);
         check.due("at the last part", y.pass(1), 12);
         snow("at the last part", y, 17, 0, 4, 8);
         check.due("the first part gets none of it", y.part(0, 0), 0);
@@ -84,7 +70,7 @@ public final class HoursTest {
             {0, 81, 0, 1}, {0, 80, 8, 0}, {0, 100, 0, 1}, {-1, 91, 0, 1}, {-1, 90, 8, 0},
         };
         for (int[] row : rows) {
-            SnowPumps x = withPump(3, 8, 8);
+            SnowPumps x = Hills.withPump(3, 8, 8);
             x.setWeather(0, row[0], row[1], 0);
             x.pass(1);
             String what = "warmth " + row[0] + ", damp " + row[1];
@@ -127,7 +113,7 @@ public final class HoursTest {
     }
 
     private static void promise14IsHeld() {
-        SnowPumps x = withPump(10, 9, 9999);
+        SnowPumps x = Hills.withPump(10, 9, 9999);
         check.due("pass(8)", x.pass(8), 8 * 72);
         snow("8 hours", x, 9, 144, 288, 144);
         check.due("the part is full", x.pass(1), 12 + 36);
@@ -136,7 +122,7 @@ public final class HoursTest {
         snow("full", x, 8, 0, 300, 300, 300, 0);
         check.due("water goes on", x.count(4), 9999 - 105 * 9);
         check.due("nothing more", x.pass(1), 0);
-        setAllHours(x, 0, 100);
+        Hills.setAllHours(x, 0, 100, 0);
         x.pass(49);
         check.due("ice", x.part(10, 1), 49);
         x.pass(1);
@@ -147,7 +133,7 @@ public final class HoursTest {
     }
 
     private static void promise14Melts() {
-        SnowPumps x = withPump(10, 9, 9999);
+        SnowPumps x = Hills.withPump(10, 9, 9999);
         x.pass(1);
         x.run(0);
         x.setWeather(1, 1, 50, 0);
@@ -174,16 +160,16 @@ public final class HoursTest {
         x.pass(2);
         check.due("ice is at least 0", x.count(8), 0);
         snow("at last", x, 9, 0, 10, 0);
-        SnowPumps dry = withPump(10, 4, 9999);
+        SnowPumps dry = Hills.withPump(10, 4, 9999);
         dry.setWeather(0, 5, 0, 0);
         check.due("warm and dry: made first, then it melts", dry.pass(1), 5);
         snow("warm and dry", dry, 9, 0, 5, 0);
-        SnowPumps wet = withPump(10, 4, 9999);
+        SnowPumps wet = Hills.withPump(10, 4, 9999);
         wet.setWeather(0, 5, 100, 0);
         wet.pass(1);
         check.due("ice is made first, then it melts", wet.count(8), 0);
         check.due("water is taken", wet.count(4), 9995);
-        SnowPumps full = withPump(10, 9, 9999);
+        SnowPumps full = Hills.withPump(10, 9, 9999);
         full.pass(96);
         full.setWeather(0, 6, 0, 0);
         full.setWeather(1, 6, 0, 0);
@@ -192,7 +178,7 @@ public final class HoursTest {
     }
 
     private static void promise14Refused() {
-        SnowPumps x = withPump(10, 9, 9999);
+        SnowPumps x = Hills.withPump(10, 9, 9999);
         for (int hours : WRONG_HOURS) {
             check.refused("pass(" + hours + ")", x, ARGUMENT, () -> x.pass(hours));
         }
@@ -207,7 +193,7 @@ public final class HoursTest {
     }
 
     private static void promise15Enough() {
-        SnowPumps x = withPump(5, 9, 9999);
+        SnowPumps x = Hills.withPump(5, 9, 9999);
         x.pass(1);
         enough(x, 5, 36, 0);
         enough(x, 5, 1, 0);
@@ -219,13 +205,13 @@ public final class HoursTest {
         enough(x, 5, 300, 8);
         enough(x, 7, 1, -1);
         enough(x, 19, 1, -1);
-        SnowPumps melting = withPump(5, 9, 20);
+        SnowPumps melting = Hills.withPump(5, 9, 20);
         melting.setWeather(2, 20, 100, 0);
         enough(melting, 5, 72, 2);
         enough(melting, 5, 73, -1);
         enough(melting, 5, 300, -1);
-        SnowPumps later = withPump(0, 9, 9999);
-        setAllHours(later, 0, 100);
+        SnowPumps later = Hills.withPump(0, 9, 9999);
+        Hills.setAllHours(later, 0, 100, 0);
         later.setWeather(17, -8, 100, 0);
         later.pass(20);
         enough(later, 0, 36, 0);
@@ -234,8 +220,8 @@ public final class HoursTest {
     }
 
     private static void promise15WaitsFor240Hours() {
-        SnowPumps x = withPump(5, 1, 9999);
-        setAllHours(x, -2, 100);
+        SnowPumps x = Hills.withPump(5, 1, 9999);
+        Hills.setAllHours(x, -2, 100, 0);
         enough(x, 5, 1, 1);
         enough(x, 5, 239, 239);
         enough(x, 5, 240, 240);
@@ -245,7 +231,7 @@ public final class HoursTest {
     }
 
     private static void promise15Refused() {
-        SnowPumps x = withPump(5, 9, 9999);
+        SnowPumps x = Hills.withPump(5, 9, 9999);
         for (int part : new int[] {-1, 20, LEAST, MOST}) {
             check.refused("enough(" + part + ", 1)", x, INDEX, () -> x.enough(part, 1));
             check.refused("enough(" + part + ", 0)", x, INDEX, () -> x.enough(part, 0));
@@ -262,7 +248,7 @@ public final class HoursTest {
     }
 
     private static void promise16Foresee() {
-        SnowPumps x = withPump(5, 9, 40);
+        SnowPumps x = Hills.withPump(5, 9, 40);
         x.setWeather(2, 0, 100, 0);
         x.setWeather(4, 1, 100, 0);
         foresee(x, 1, 4, 31);
@@ -286,7 +272,7 @@ public final class HoursTest {
     }
 
     private static void promise16Refused() {
-        SnowPumps x = withPump(5, 9, 40);
+        SnowPumps x = Hills.withPump(5, 9, 40);
         for (int hours : WRONG_HOURS) {
             check.refused("foresee(" + hours + ", 4)", x, ARGUMENT, () -> x.foresee(hours, 4));
             check.refused("foresee(" + hours + ", 5)", x, ARGUMENT, () -> x.foresee(hours, 5));
@@ -329,7 +315,7 @@ public final class HoursTest {
         x.setWeather(2, 20, 100, 0);
         x.pass(1);
         gate(x, 0, 0);
-        SnowPumps edges = withPump(19, 9, 9999);
+        SnowPumps edges = Hills.withPump(19, 9, 9999);
         edges.pump(0, 9);
         edges.run(1);
         edges.pass(1);
@@ -344,7 +330,7 @@ public final class HoursTest {
     }
 
     private static void promise17Refused() {
-        SnowPumps x = withPump(10, 9, 9999);
+        SnowPumps x = Hills.withPump(10, 9, 9999);
         for (int style : new int[] {-1, 21, LEAST, MOST}) {
             check.refused("gate(" + style + ")", x, ARGUMENT, () -> x.gate(style));
         }
@@ -417,7 +403,7 @@ public final class HoursTest {
         SnowPumps warm = new SnowPumps();
         warm.pump(0, 9);
         warm.fill(100);
-        setAllHours(warm, 0, 100);
+        Hills.setAllHours(warm, 0, 100, 0);
         advise(warm, 10, -1);
         warm.setWeather(9, -2, 100, 0);
         advise(warm, 9, -1);
@@ -438,7 +424,7 @@ public final class HoursTest {
     }
 
     private static void promise18Refused() {
-        SnowPumps x = withPump(10, 9, 9999);
+        SnowPumps x = Hills.withPump(10, 9, 9999);
         for (int hours : WRONG_HOURS) {
             check.refused("advise(" + hours + ")", x, ARGUMENT, () -> x.advise(hours));
         }

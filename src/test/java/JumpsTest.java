@@ -26,31 +26,6 @@ public final class JumpsTest {
         check.finish();
     }
 
-    /** A hill with just this much snow, up to 100, on each part, in an hour 0 of the day, with one pump that rests. */
-    private static SnowPumps snowy(int snow) {
-        SnowPumps x = new SnowPumps();
-        x.pump(5, 5);
-        x.run(0);
-        x.fill(9999);
-        // An hour brings 40 snow: 2 for each part.
-        for (int hours = (snow + 1) / 2; hours > 0; hours -= 10) {
-            x.pass(Math.min(hours, 10));
-            x.groom(0, 19);
-        }
-        x.run(0);
-        if (snow % 2 == 1) {
-            int hour = x.count(1);
-            x.setWeather(hour, 1, 100, 0);
-            x.pass(1);
-            x.setWeather(hour, -5, 50, 0);
-        }
-        x.pass(24 - x.count(1));
-        for (int part = 0; part < 20; part++) {
-            check.due("snowy(" + snow + "): snow of " + part, x.part(part, 0), snow);
-        }
-        return x;
-    }
-
     private static void jumps(SnowPumps x, int gate, int style, int length, int points, int fall) {
         int jump = x.jump(3, gate, style);
         String what = "gate " + gate + ", style " + style + ": ";
@@ -67,7 +42,7 @@ public final class JumpsTest {
         for (int judge = 0; judge < 5; judge++) {
             check.due("judge(" + judge + ", 0)", x.judge(judge, 0), 4 - judge);
         }
-        SnowPumps y = snowy(40);
+        SnowPumps y = Hills.even(40);
         jumps(y, 5, 15, 23, 23 + 14 + 13 + 12, 0);
         y.judge(1, 4);
         jumps(y, 10, 15, 43, 43 + 13 + 12 + 11, 0);
@@ -86,7 +61,7 @@ public final class JumpsTest {
     }
 
     private static void promise8Jump() {
-        SnowPumps x = snowy(40);
+        SnowPumps x = Hills.even(40);
         int hour = x.count(0);
         check.due("jump(7, 10, 18)", x.jump(7, 10, 18), 0);
         check.due("its length", x.told(0, 1), 44);
@@ -106,7 +81,7 @@ public final class JumpsTest {
     }
 
     private static void promise8TheLengthIsHeld() {
-        SnowPumps x = snowy(40);
+        SnowPumps x = Hills.even(40);
         x.setWeather(0, -5, 50, 9);
         jumps(x, 20, 20, 99, 99 + 10 + 9 + 8, 0);
         check.due("landed on the last part", x.part(19, 0), 37);
@@ -122,7 +97,7 @@ public final class JumpsTest {
     }
 
     private static void promise8ByTheGust() {
-        SnowPumps x = snowy(40);
+        SnowPumps x = Hills.even(40);
         x.setWeather(0, -5, 50, 3);
         x.setWeather(1, -5, 50, -4);
         jumps(x, 10, 16, 50, 50 + 12 + 11 + 10, 0);
@@ -135,7 +110,7 @@ public final class JumpsTest {
     }
 
     private static void promise8MarksAreHeld() {
-        SnowPumps x = snowy(40);
+        SnowPumps x = Hills.even(40);
         jumps(x, 1, 2, 4, 4 + 1, 0);
         for (int judge = 0; judge < 5; judge++) {
             x.judge(judge, 0);
@@ -150,7 +125,7 @@ public final class JumpsTest {
     }
 
     private static void promise8BestAndWorst() {
-        SnowPumps x = snowy(40);
+        SnowPumps x = Hills.even(40);
         int[] strict = {2, 2, 0, 4, 4};
         for (int judge = 0; judge < 5; judge++) {
             x.judge(judge, strict[judge]);
@@ -163,7 +138,7 @@ public final class JumpsTest {
     }
 
     private static void promise8FallsByIce() {
-        SnowPumps x = snowy(70);
+        SnowPumps x = Hills.even(70);
         x.pump(5, 1);
         x.run(1);
         for (int ice = 1; ice <= 11; ice++) {
@@ -178,7 +153,7 @@ public final class JumpsTest {
     }
 
     private static void promise8FallsBySnow() {
-        SnowPumps x = snowy(33);
+        SnowPumps x = Hills.even(33);
         jumps(x, 6, 18, 28, 76, 0);
         check.due("snow", x.part(5, 0), 30);
         check.due("30 will do", x.part(5, 3), 0);
@@ -191,15 +166,15 @@ public final class JumpsTest {
             x.jump(1, 6, 18);
         }
         check.due("snow is at least 0", x.part(5, 0), 0);
-        SnowPumps y = snowy(30);
+        SnowPumps y = Hills.even(30);
         jumps(y, 6, 18, 28, 76, 0);
-        SnowPumps z = snowy(29);
+        SnowPumps z = Hills.even(29);
         jumps(z, 6, 18, 28, 52, 1);
         check.due("falls", z.count(10), 1);
     }
 
     private static void promise8Refused() {
-        SnowPumps x = snowy(40);
+        SnowPumps x = Hills.even(40);
         for (int jump = 0; jump <= 30; jump++) {
             if (jump == 0 || jump == 30) {
                 refuseWrongJumps(x);
@@ -246,7 +221,7 @@ public final class JumpsTest {
         for (int wrong : new int[] {5, -1, LEAST, MOST}) {
             check.refused("told(0, " + wrong + ")", x, INDEX, () -> x.told(0, wrong));
         }
-        SnowPumps y = snowy(40);
+        SnowPumps y = Hills.even(40);
         y.jump(0, 10, 10);
         check.due("no fall", y.told(0, 3), 0);
     }
