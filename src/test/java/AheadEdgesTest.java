@@ -37,6 +37,7 @@ public final class AheadEdgesTest {
         promise18TakesWaterFromOthers();
         promise19();
         promise20NothingAndAll();
+        promise20PumpsThatRest();
         promise20WrapsAround();
         promise20TellsOfEverything();
         check.finish();
@@ -630,6 +631,30 @@ public final class AheadEdgesTest {
     private static void promise20NothingAndAll() {
         check.due("a new object", new SnowPumps().digest(), ofNothing().d.longValue());
         check.due("a full one", Hills.full().digest(), ofAll().d.longValue());
+    }
+
+    // "for each pump its part, its flow, and 1 if it runs, else 0"
+    private static void promise20PumpsThatRest() {
+        SnowPumps x = new SnowPumps();
+        x.pump(19, 1);
+        x.pump(0, 9);
+        x.run(1);
+        x.setWeather(0, -30, 0, -9);
+        x.setWeather(23, 20, 100, 9);
+        AheadEdgesTest want = new AheadEdgesTest();
+        want.add(0, 0, -40, -9, 0, 2, 1, 0, 0, 0, 0);
+        for (int part = 0; part < 20; part++) {
+            want.add(0, 0, part == 0 || part == 19 ? 1 : 0, 1);
+        }
+        want.add(-30, 0, -9);
+        for (int hour = 1; hour < 23; hour++) {
+            want.add(-5, 50, 0);
+        }
+        want.add(20, 100, 9);
+        want.add(0, 1, 2, 3, 4);
+        want.add(19, 1, 0, 0, 9, 1);
+        want.add(0, 0, 0, 0, 0, 0, 0, 0, 0, 0);
+        check.due("pumps, and no jumps", x.digest(), want.d.longValue());
     }
 
     // "which wraps around as a 64-bit integer"

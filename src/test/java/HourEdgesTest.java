@@ -272,22 +272,25 @@ public final class HourEdgesTest {
 
     // "Pumps that run, by numbers"
     private static void aFlowGreaterThanTheWaterLeavesItToTheNext() {
-        SnowPumps x = new SnowPumps();
         int[] flows = {4, 9, 3, 2, 1};
-        for (int pump = 0; pump < 5; pump++) {
-            x.pump(1 + 4 * pump, flows[pump]);
-        }
-        // In whatever order they are started.
-        for (int pump = 4; pump >= 0; pump--) {
-            x.run(pump);
-        }
-        x.fill(8);
-        x.pass(1);
         int[] snow = {16, 0, 12, 0, 4};
-        for (int pump = 0; pump < 5; pump++) {
-            parts("8 water for 4, 9, 3, 2, 1", x, 0, 1 + 4 * pump, snow[pump]);
+        int[][] parts = {{1, 5, 9, 13, 17}, {17, 13, 9, 5, 1}, {9, 1, 17, 5, 13}};
+        for (int[] at : parts) {
+            SnowPumps x = new SnowPumps();
+            for (int pump = 0; pump < 5; pump++) {
+                x.pump(at[pump], flows[pump]);
+            }
+            // Neither the order in which they are started nor that of their parts counts.
+            for (int pump = 4; pump >= 0; pump--) {
+                x.run(pump);
+            }
+            x.fill(8);
+            x.pass(1);
+            for (int pump = 0; pump < 5; pump++) {
+                parts("8 water for 4, 9, 3, 2, 1", x, 0, at[pump], snow[pump]);
+            }
+            check.due("water", x.count(4), 0);
         }
-        check.due("water", x.count(4), 0);
     }
 
     // "With a wet cold of -2 or less it makes .. snow .. Otherwise its part has 1 more ice."
