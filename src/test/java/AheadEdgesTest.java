@@ -22,6 +22,7 @@ public final class AheadEdgesTest {
         promise16From1To96();
         promise16OverTheEndOfTheDay();
         promise16NothingAndAll();
+        promise16PumpsThatRest();
         promise16OrderOfExceptions();
         promise17TheHighestGate();
         promise17NoGate();
@@ -36,6 +37,7 @@ public final class AheadEdgesTest {
         promise18OverTheEndOfTheDay();
         promise18TakesWaterFromOthers();
         promise19();
+        promise19OfMuch();
         promise20NothingAndAll();
         promise20PumpsThatRest();
         promise20WrapsAround();
@@ -286,6 +288,29 @@ public final class AheadEdgesTest {
         SnowPumps dry = Hills.withPump(9, 9, 8);
         foresee("too little water", dry, 96, 4, 8);
         foresee("too little water", dry, 96, 7, 0);
+    }
+
+    // "if nothing is done": those that rest go on to rest.
+    private static void promise16PumpsThatRest() {
+        SnowPumps x = Hills.withPump(5, 4, 100);
+        x.pump(12, 9);
+        foresee("one of two runs", x, 1, 4, 96);
+        foresee("one of two runs", x, 1, 7, 32);
+        foresee("one of two runs", x, 3, 4, 88);
+        foresee("one of two runs", x, 3, 7, 96);
+        foresee("one of two runs", x, 3, 8, 0);
+        enough("one of two runs", x, 12, 1, -1);
+        Hills.setAllHours(x, 0, 100, 0);
+        foresee("ice of one of two", x, 5, 8, 5);
+        foresee("its water", x, 5, 4, 80);
+        x.run(0);
+        foresee("both rest", x, 96, 4, 100);
+        foresee("both rest", x, 96, 8, 0);
+        Hills.setAllHours(x, -5, 50, 0);
+        foresee("both rest", x, 96, 7, 0);
+        x.run(1);
+        foresee("the other one runs", x, 2, 4, 82);
+        foresee("the other one runs", x, 2, 7, 2 * 72);
     }
 
     private static void promise16OrderOfExceptions() {
@@ -570,6 +595,18 @@ public final class AheadEdgesTest {
         check.due("no points", none.mean(), 0.0);
         none.jump(5, 5, 0);
         check.due("2, and none", none.mean(), 1.0);
+    }
+
+    private static void promise19OfMuch() {
+        SnowPumps x = Hills.even(100);
+        for (int judge = 0; judge < 5; judge++) {
+            x.judge(judge, 0);
+        }
+        for (int jump = 0; jump < 30; jump++) {
+            x.jump(jump % 3, jump < 15 ? 20 : 19, 20);
+        }
+        check.due("no falls", x.count(10), 0);
+        check.due("of much", x.mean(), (15 * (85 + 60) + 15 * (81 + 60)) / 30.0);
     }
 
     /** The checksum as it is told, by numbers of any size. */

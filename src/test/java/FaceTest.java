@@ -2,9 +2,15 @@ import java.lang.reflect.Constructor;
 import java.lang.reflect.Field;
 import java.lang.reflect.Method;
 import java.lang.reflect.Modifier;
+import java.nio.file.Files;
+import java.nio.file.Path;
+import java.util.ArrayList;
 import java.util.Arrays;
+import java.util.List;
 import java.util.Set;
 import java.util.TreeSet;
+import java.util.regex.Matcher;
+import java.util.regex.Pattern;
 import java.util.stream.Collectors;
 import java.util.stream.Stream;
 
@@ -32,8 +38,18 @@ public final class FaceTest {
         "long digest()",
     };
 
-    public static void main(String[] args) {
+    /** "Ahead of the calls .. the interface says": the headings, and the calls behind each, in the document's order. */
+    private static final List<String> HEADINGS_AND_CALLS = List.of(
+            "---- weather and pumps", "setWeather", "pump", "run", "fill", "groom",
+            "---- jumps", "judge", "jump", "told", "score", "leader",
+            "---- what is there", "part", "count",
+            "---- hours and what would be", "pass", "enough", "foresee", "gate", "advise", "mean", "digest");
+
+    private static final Pattern HEADING_OR_CALL = Pattern.compile(" {4}(?:// (----.*)|public \\w+ (\\w+)\\(.*)");
+
+    public static void main(String[] args) throws Exception {
         Check check = new Check();
+        headings(check);
         Class<?> face = SnowPumps.class;
         Set<String> want = new TreeSet<>(Arrays.asList(FACE));
         Set<String> got = new TreeSet<>();
@@ -64,6 +80,19 @@ public final class FaceTest {
             check.due(inside.getName() + " is static", Modifier.isStatic(inside.getModifiers()), true);
         }
         check.finish();
+    }
+
+    private static void headings(Check check) throws Exception {
+        List<String> got = new ArrayList<>();
+        for (String line : Files.readAllLines(Path.of("src/main/java/SnowPumps.java"))) {
+            Matcher matcher = HEADING_OR_CALL.matcher(line);
+            if (matcher.matches()) {
+                got.add(matcher.group(1) == null ? matcher.group(2) : matcher.group(1));
+            }
+        }
+        if (!got.equals(HEADINGS_AND_CALLS)) {
+            check.tell("the headings and calls are " + got + ", due are " + HEADINGS_AND_CALLS);
+        }
     }
 
     private static String print(Method method) {

@@ -25,6 +25,7 @@ public final class HourEdgesTest {
         besideTheFirstAndTheLastPart();
         iceOfOnePartAlone();
         meltingByWarmth();
+        meltingByTheWarmthOfThisHour();
         meltingDownToNothing();
         iceMeltsDownToNothing();
         eachPartMelts();
@@ -388,6 +389,27 @@ public final class HourEdgesTest {
                 parts("warmth " + row[0], x, 1, 8, row[0] > 0 ? 4 : 5);
             }
         }
+    }
+
+    // "with the weather of the hour of the day": of this one, not of those beside it.
+    private static void meltingByTheWarmthOfThisHour() {
+        SnowPumps x = Hills.even(40);
+        int[] warmth = {3, 7, 0, 1, -2, 12};
+        for (int hour = 0; hour < warmth.length; hour++) {
+            x.setWeather(hour, warmth[hour], 100, 0);
+        }
+        x.setWeather(23, 2, 100, 0);
+        int[] want = {37, 30, 30, 29, 29, 17};
+        for (int hour = 0; hour < want.length; hour++) {
+            x.pass(1);
+            parts("behind the hour " + hour, x, 0, 0, want[hour], want[hour]);
+        }
+        x.pass(17);
+        parts("behind the cold ones", x, 0, 19, 17);
+        x.pass(1);
+        parts("behind the last one of the day", x, 0, 19, 15);
+        x.pass(1);
+        parts("behind the first one of the next", x, 0, 19, 12);
     }
 
     // "that much less snow (at least 0)"

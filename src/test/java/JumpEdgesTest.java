@@ -34,12 +34,14 @@ public final class JumpEdgesTest {
         promise8JumpersFrom0To9();
         promise9TheFirstAndTheLastJump();
         promise9TheHour();
+        promise9WhatIsToldStays();
         promise10BestTwo();
         promise10OfEachJumper();
         promise10OfThirtyJumps();
         promise11WithoutAJump();
         promise11WithScoresOf0();
         promise11OfSeveral();
+        promise11OfSeveralWithMuch();
         check.finish();
     }
 
@@ -444,6 +446,34 @@ public final class JumpEdgesTest {
         check.due("the hour of the last one stays", x.told(5, 4), 217);
     }
 
+    // A jump is told as it was, whatever the judges, the weather, the snow and the time are later.
+    private static void promise9WhatIsToldStays() {
+        SnowPumps x = Hills.even(40);
+        int hour = x.count(0);
+        x.jump(6, 12, 20);
+        x.setWeather(0, -5, 50, -2);
+        x.jump(2, 3, 11);
+        int[][] want = {{6, 53, 53 + 54, 0, hour}, {2, 10, 10 + 8 + 7 + 6, 0, hour}};
+        for (int later = 0; later < 10; later++) {
+            for (int jump = 0; jump < want.length; jump++) {
+                for (int what = 0; what < 5; what++) {
+                    check.due("later " + later + ": told(" + jump + ", " + what + ")", x.told(jump, what),
+                            want[jump][what]);
+                }
+            }
+            check.due("falls", x.count(10), 0);
+            check.due("score", x.score(6), 53 + 54);
+            check.due("leader", x.leader(), 6);
+            Hills.setAllHours(x, 20, 100, later);
+            allStrict(x, later % 5);
+            x.pass(96);
+        }
+        x.jump(2, 20, 3);
+        jumped("a late one", x, 98, 98, 1);
+        check.due("its hour", x.told(2, 4), hour + 960);
+        check.due("the score goes on", x.score(2), 98 + 10 + 8 + 7 + 6);
+    }
+
     // Promise 10: "the points of the best two jumps .. (of one, if there is only one), added; 0 without any"
     private static void promise10BestTwo() {
         int[][] rows = {
@@ -547,5 +577,22 @@ public final class JumpEdgesTest {
         }
         all.jump(0, 20, 0);
         check.due("the first one with more", all.leader(), 0);
+    }
+
+    private static void promise11OfSeveralWithMuch() {
+        for (int less = 0; less < 9; less++) {
+            SnowPumps x = Hills.even(100);
+            int more = less + 1;
+            x.jump(more, 12, 20);
+            x.jump(more, 12, 20);
+            check.due("the score of " + more, x.score(more), 2 * (53 + 54));
+            x.jump(less, 12, 20);
+            check.due("half as much", x.leader(), more);
+            x.jump(less, 12, 20);
+            check.due("as much", x.leader(), less);
+            x.jump(9 - less, 12, 20);
+            x.jump(9 - less, 12, 20);
+            check.due("and another one", x.leader(), Math.min(less, 9 - less));
+        }
     }
 }

@@ -8,6 +8,8 @@ public final class SnowEdgesTest {
 
     public static void main(String[] args) {
         promise1TwoObjects();
+        promise1TwoObjectsInTurn();
+        promise1ForeseenInTurn();
         promise2EachBound();
         promise2OneHourAlone();
         promise2OrderOfExceptions();
@@ -23,6 +25,7 @@ public final class SnowEdgesTest {
         promise6FirstAndLastParts();
         promise6NothingAndAll();
         promise6IceIsGone();
+        promise6IceWithoutSnow();
         promise6OrderOfExceptions();
         promise12EachBound();
         promise12PumpsThere();
@@ -55,6 +58,61 @@ public final class SnowEdgesTest {
         check.due("an object of before", before.digest(), bare);
         check.due("an object of now", new SnowPumps().digest(), bare);
         counts("a new object", new SnowPumps(), 0, 0, -10, 0, 0, 0, 0, 0, 0, 0, 0);
+    }
+
+    private static final int STEPS = 30;
+
+    /** Something of all, other for each kind: each step makes a jump, the first five a pump as well. */
+    private static void step(SnowPumps x, int kind, int step) {
+        if (step < 5) {
+            x.pump((3 + 7 * kind + 4 * step) % 20, 1 + (2 + 5 * kind + step) % 9);
+            x.run(step);
+        }
+        x.setWeather((step + kind) % 24, 3 * kind - step % 9, (40 * kind + 7 * step) % 101, (step + kind) % 19 - 9);
+        x.judge(step % 5, (step + 2 * kind) % 5);
+        x.fill(20 + 30 * kind + step);
+        x.pass(1 + kind);
+        x.jump((step + 3 * kind) % 10, 1 + (step + 5 * kind) % 20, (4 + 9 * kind + step) % 21);
+        x.groom((step + kind) % 19, (step + kind) % 19 + 1);
+    }
+
+    // Each object is one of its own: two that are used in turn are as they are when used one behind the other.
+    private static void promise1TwoObjectsInTurn() {
+        long[][] alone = new long[2][STEPS];
+        for (int kind = 0; kind < 2; kind++) {
+            SnowPumps x = new SnowPumps();
+            for (int step = 0; step < STEPS; step++) {
+                step(x, kind, step);
+                alone[kind][step] = x.digest();
+            }
+        }
+        SnowPumps[] both = {new SnowPumps(), new SnowPumps()};
+        for (int step = 0; step < STEPS; step++) {
+            for (int kind = 0; kind < 2; kind++) {
+                step(both[kind], kind, step);
+            }
+            for (int kind = 0; kind < 2; kind++) {
+                check.due("kind " + kind + ", step " + step, both[kind].digest(), alone[kind][step]);
+            }
+        }
+    }
+
+    // What is foreseen of one hill does not stay for another one, nor for the next question.
+    private static void promise1ForeseenInTurn() {
+        SnowPumps x = Hills.busy();
+        SnowPumps y = Hills.full();
+        int snow = x.foresee(20, 7);
+        int hours = x.enough(5, 200);
+        int pump = x.advise(9);
+        for (int round = 0; round < 3; round++) {
+            y.foresee(96, 7);
+            check.due("foresee", x.foresee(20, 7), snow);
+            y.enough(4, 300);
+            check.due("enough", x.enough(5, 200), hours);
+            y.advise(96);
+            check.due("advise", x.advise(9), pump);
+            x.foresee(96, 8);
+        }
     }
 
     // Promise 2: the last values that are allowed, and what they do.
@@ -311,6 +369,24 @@ public final class SnowEdgesTest {
                 }
             }
         }
+    }
+
+    // "their ice is gone", be there snow or not.
+    private static void promise6IceWithoutSnow() {
+        SnowPumps x = new SnowPumps();
+        Hills.setAllHours(x, 0, 100, 0);
+        x.fill(9999);
+        for (int pump = 0; pump < 3; pump++) {
+            x.pump(4 + pump, 1);
+            x.run(pump);
+        }
+        x.pass(12);
+        check.due("snow of one bare part", x.groom(5, 5), 0);
+        check.due("its ice", x.part(5, 1), 0);
+        check.due("ice before it", x.part(4, 1), 12);
+        check.due("ice behind it", x.part(6, 1), 12);
+        check.due("snow of a bare hill", x.groom(0, 19), 0);
+        check.due("all ice", x.count(8), 0);
     }
 
     private static void promise6OrderOfExceptions() {
